@@ -755,12 +755,11 @@ public final class FlagChamber {
         }
 
         /**
-         * Finds the members as they would be with the draft for a rule. Nobody to whom the draft refers
-         * refers to this audience, so their members stay, and the draft can be met first; the order of
-         * the others is not touched by it.
+         * Finds the members as they would be with the draft for a rule. What the draft refers to does not
+         * refer to this audience, so its members stay, and this one can come first; among the others, the
+         * order of now still puts each behind those to which it refers.
          */
         void tryDraft(int changed, People people) {
-            System.arraycopy(members, 0, membersIfSet, 0, AUDIENCES);
             membersIfSet[changed] = evaluator.whoMeets(drafts[changed], people, members);
             for (int i = 0; i < AUDIENCES; i++) {
                 int audience = references.order[i];

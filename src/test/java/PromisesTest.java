@@ -318,6 +318,9 @@ public final class PromisesTest {
             due(text + " is met, so not with ! before it", false, meets(x, "!(" + text + ")"));
             x.erase(0, 60);
         }
+        due("eight brackets are met", true, meets(x, "((((((((t0))))))))"));
+        due("eight brackets are met", true, meets(x, "!((((((((t1|t2))))))))&t5"));
+        due("eight brackets are not met", false, meets(x, "t1|!((t5|((((((t2&t0)))))))|t1)"));
         FlagChamber y = new FlagChamber();
         y.setAttribute(1, LAND, 3);
         y.setAttribute(1, AGE, 40);
@@ -393,6 +396,17 @@ public final class PromisesTest {
     }
 
     private static void newReferencesAreFollowed() {
+        FlagChamber chain = new FlagChamber();
+        define(chain, 5, "t3");
+        for (int audience = 4; audience >= 0; audience--) {
+            define(chain, audience, "!@" + (audience + 1));
+        }
+        chain.addRule(0, 0, 0, 1);
+        write(chain, 5, "*");
+        due("over six", 20, chain.wouldMove(5));
+        chain.setTag(0, 3, true);
+        due("over six", 19, chain.wouldMove(5));
+        due("over six", 19, chain.reach(0, 1));
         FlagChamber x = new FlagChamber();
         define(x, 5, "*");
         define(x, 4, "@5");
@@ -553,6 +567,30 @@ public final class PromisesTest {
         x.setNeed(2, 0, true);
         due("one of two is 0", 0, x.view(7, 2));
         due("no entry by views", 2, x.entries());
+        chainsOfNeeds();
+    }
+
+    private static void chainsOfNeeds() {
+        FlagChamber up = withAll();
+        FlagChamber down = withAll();
+        for (int flag = 0; flag < 8; flag++) {
+            up.addRule(flag, 0, 0, 1);
+            down.addRule(flag, 0, 0, 1);
+            if (flag < 7) {
+                up.setNeed(flag, flag + 1, true);
+                down.setNeed(flag + 1, flag, true);
+            }
+        }
+        due("a chain of eight", 1, up.view(0, 0));
+        due("a chain of eight", 1, down.view(0, 7));
+        up.removeRule(7, 0);
+        down.removeRule(0, 0);
+        due("its end is 0", 0, up.view(0, 0));
+        due("its end is 0", 0, down.view(0, 7));
+        up.hold(0, 7);
+        up.addRule(7, 0, 0, 2);
+        due("its end is held at 0", 0, up.view(0, 0));
+        due("for one person", 1, up.view(1, 0));
     }
 
     private static void promise16() {
@@ -586,8 +624,14 @@ public final class PromisesTest {
         x.beginAnew(0);
         sameByLog(x, "begun anew", 2, 2);
         sameByLog(x, "shown while stopped", 4, 2);
+        x.hold(0, 0);
+        x.view(1, 0);
+        x.setShares(0, 0, 0, 0, 1);
+        due("another than was seen before", 3, x.viewByLog(2, 0));
+        due("held, while another moves", 2, x.viewByLog(0, 0));
+        x.release(0, 0);
         due("nothing is shown by that", NONE, x.shownLast(0, 0));
-        due("no entry by that", 9, x.entries());
+        due("no entry by that", 11, x.entries());
     }
 
     private static void sameByLog(FlagChamber x, String what, int person, int want) {
@@ -655,6 +699,13 @@ public final class PromisesTest {
         x.addRule(1, 0, 0, 4);
         due("over another flag", 3, x.show(2, 1));
         notKept();
+        due("no rule", 0, x.show(9, 7));
+        due("so by no trial", NONE, x.kept(0, 9));
+        x.setNeed(1, 0, true);
+        x.addRule(0, 0, 0, 0);
+        due("it needs the flag 0", 0, x.show(6, 1));
+        due("so nothing is kept", NONE, x.kept(0, 6));
+        x.removeRule(0, 0);
         x.setNeed(0, 2, true);
         due("it needs one that is 0", 0, x.show(5, 0));
         due("so nothing is kept", NONE, x.kept(0, 5));
@@ -765,13 +816,14 @@ public final class PromisesTest {
         range("trial", 0, 5, x::beginAnew);
         due("none kept", 0, x.beginAnew(0));
         due("an entry", 1, x.entries());
-        x.show(1, 0);
+        x.show(0, 0);
         x.show(2, 0);
+        x.show(19, 0);
         x.show(2, 0);
         x.show(2, 1);
         x.stop(0, 2);
         x.show(3, 0);
-        due("two kept", 2, x.beginAnew(0));
+        due("three kept", 3, x.beginAnew(0));
         due("nothing is kept", NONE, x.kept(0, 2));
         due("another trial keeps", 0, x.kept(1, 2));
         due("not stopped", 3, x.arm(0, 2));
@@ -945,6 +997,7 @@ public final class PromisesTest {
         due("the second holds it still", true, x.isHeld(2, 0));
         x.stop(1, 2);
         due("it stays frozen", 1, x.view(2, 0));
+        due("by log", 1, x.viewByLog(2, 0));
         due("now nothing holds it", 1, x.releaseTrial(0));
         due("free", 2, x.view(2, 0));
         due("frozen anew", 1, x.holdTrial(0));
@@ -955,15 +1008,15 @@ public final class PromisesTest {
         FlagChamber x = withTrial();
         range("trial", 0, 5, x::releaseTrial);
         state("not held", () -> x.releaseTrial(0));
-        x.show(1, 0);
+        x.show(0, 0);
         x.show(2, 0);
-        x.show(3, 0);
-        x.holdTrial(0);
+        x.show(19, 0);
+        due("three", 3, x.holdTrial(0));
         x.hold(2, 0);
         state("another trial", () -> x.releaseTrial(1));
         due("two of three", 2, x.releaseTrial(0));
         due("an entry", 6, x.entries());
-        due("free", false, x.isHeld(1, 0));
+        due("free", false, x.isHeld(0, 0));
         due("held by itself", true, x.isHeld(2, 0));
         state("twice", () -> x.releaseTrial(0));
         due("its shares can be set", 4, x.setShares(0, 1, 1, 1, 1));
@@ -972,7 +1025,7 @@ public final class PromisesTest {
         fillLog(x);
         state("the log is full", () -> x.releaseTrial(0));
         argument("first the argument", () -> x.releaseTrial(-1));
-        due("a throw changes nothing", true, x.isHeld(1, 0));
+        due("a throw changes nothing", true, x.isHeld(0, 0));
         state("it is held still", () -> x.stop(0, 0));
     }
 
