@@ -640,7 +640,7 @@ public final class FlagChamber {
         }
     }
 
-    /** Finds who meets a text without a fault, for all persons at once; with a stack, as "!" and "(" may nest deep. */
+    /** Finds who meets a text without a fault, for all persons at once. */
     private static final class Evaluator {
         // Each has a place for every bracket that is open, and one for the outside.
         private final int[] metTerms = new int[MOST_BRACKETS + 1];

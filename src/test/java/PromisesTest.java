@@ -297,6 +297,16 @@ public final class PromisesTest {
         due("no reference is left", 20, define(x, 0, "@2"));
         due("an audience that has no rule has nobody", 20, define(x, 3, "!@4"));
         due("a loop of drafts alone is none", 0, define(x, 4, "!*"));
+        x.setAttribute(8, AGE, 80);
+        define(x, 5, "a=80");
+        x.setAttribute(9, AGE, 80);
+        define(x, 4, "*");
+        due("one that has nothing to do with it stays as it is", true, x.isIn(5, 9));
+        FlagChamber first = new FlagChamber();
+        define(first, 0, "a=80");
+        first.setAttribute(9, AGE, 80);
+        define(first, 1, "*");
+        due("one that has nothing to do with it stays as it is", true, first.isIn(0, 9));
         whoMeetsWhat();
     }
 
