@@ -705,7 +705,8 @@ public final class RandomRunsTest {
 
     /** For each call, a letter an argument, by which "pick" knows its range. */
     private static final String[] ARGUMENTS = {"pkv", "pgb", "ac", "am", "ai", "a", "a", "a", "ap", "frao", "fr", "f",
-        "ffb", "pf", "pf", "pf", "fn", "pf", "xssss", "xz", "xn", "x", "xp", "xp", "pf", "pf", "x", "x", "pf", "", "pf"};
+        "ffb", "pf", "pf", "pf", "fn", "pf", "xssss", "xz", "xn", "x", "xp", "xp", "pf", "pf", "x", "x",
+        "pf", "", "pf"};
     /** How often each call comes: more of those that change what the others tell. */
     private static final int[] WEIGHTS = {8, 5, 0, 3, 1, 3, 6, 5, 3, 8, 3, 1,
         6, 6, 8, 2, 4, 16, 4, 2, 3, 2, 3, 3, 6, 5, 5, 4, 3, 1, 2};
@@ -806,7 +807,8 @@ public final class RandomRunsTest {
             if (!toType.isEmpty()) {
                 number = TYPE;
                 boolean right = maker.random.nextInt(100) > 0;
-                a = new int[] {toAudience, right ? toType.charAt(0) : SIGNS.charAt(maker.random.nextInt(SIGNS.length()))};
+                int slip = SIGNS.charAt(maker.random.nextInt(SIGNS.length()));
+                a = new int[] {toAudience, right ? toType.charAt(0) : slip};
                 toType = toType.substring(1);
             } else if (i < 40 || maker.random.nextInt(40) == 0) {
                 toAudience = maker.random.nextInt(6);
