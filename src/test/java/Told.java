@@ -372,6 +372,8 @@ final class Told {
 
         private static void addTrials() {
             for (int trial = 0; trial < 6; trial++) {
+                // First the salt, which tells whether the trial is held: a refused releaseTrial could change that.
+                add("setSalt " + trial + " 5");
                 add("releaseTrial " + trial);
                 add("stop " + trial + " 1");
                 add("beginAnew " + trial);
