@@ -52,8 +52,8 @@ public final class FaceTest {
         checkMethods();
         checkConstructors();
         checkFields();
-        if (!Modifier.isFinal(FlagChamber.class.getModifiers())) {
-            faults.add("the class is not final");
+        if (FlagChamber.class.getModifiers() != (Modifier.PUBLIC | Modifier.FINAL)) {
+            faults.add("the class is not just public and final");
         }
         for (String fault : faults) {
             System.out.println(fault);
@@ -70,6 +70,9 @@ public final class FaceTest {
         for (Method method : FlagChamber.class.getDeclaredMethods()) {
             if (Modifier.isPublic(method.getModifiers())) {
                 found.add(written(method));
+                if (method.getModifiers() != Modifier.PUBLIC) {
+                    faults.add("more than public: " + method);
+                }
                 publicNames.add(method.getName());
             } else {
                 otherNames.add(method.getName());
@@ -116,7 +119,7 @@ public final class FaceTest {
     private static void checkConstructors() {
         Constructor<?>[] constructors = FlagChamber.class.getDeclaredConstructors();
         if (constructors.length != 1 || !Modifier.isPublic(constructors[0].getModifiers())
-                || constructors[0].getParameterCount() != 0) {
+                || constructors[0].getParameterCount() != 0 || constructors[0].getExceptionTypes().length != 0) {
             faults.add("there is not just the one public constructor");
         }
     }
