@@ -154,13 +154,13 @@ public final class SentencesTest {
             x.does("setAttribute " + person + " 0 " + land(person), "setAttribute " + person + " 1 " + age(person));
             x.does("setAttribute " + person + " 2 " + plan(person));
             for (int tag = 0; tag < 8; tag++) {
-                x.does(tag(person, tag) ? new String[] {"setTag " + person + " " + tag + " 1"} : new String[0]);
+                x.does("setTag " + person + " " + tag + (tag(person, tag) ? " 1" : " 0"));
             }
         }
         Integer[] due = those(meets);
         Told.check("a text that tells persons apart, " + text, true, due.length > 0 && due.length < 20);
         x.write(5, text).due(due.length, "set 5").in(5, due);
-        x.rewrite(5, "!(" + text + ")").due(20, "set 5").due(due.length == 0, "isIn 5 " + due[0]);
+        x.rewrite(5, "!(" + text + ")").due(20, "set 5").due(false, "isIn 5 " + due[0]);
     }
 
     private static void expressions() {
@@ -168,13 +168,15 @@ public final class SentencesTest {
         metBy("l<3|a>50&!t2", p -> land(p) < 3 || age(p) > 50 && !tag(p, 2));
         metBy("!(l<3|a>50)&(@0|p=2)", p -> !(land(p) < 3 || age(p) > 50) && (land(p) < 5 || plan(p) == 2));
         metBy("!l=4&!(p=1&t0|p=3&t1)|a=5&@1",
-                p -> land(p) != 4 && !(plan(p) == 1 && tag(p, 0) || plan(p) == 3 && tag(p, 1)) || age(p) == 5 && tag(p, 3));
+                p -> land(p) != 4 && !(plan(p) == 1 && tag(p, 0) || plan(p) == 3 && tag(p, 1))
+                        || age(p) == 5 && tag(p, 3));
         metBy("t0&t1|t2&t3|t4&t5|t6&t7",
-                p -> tag(p, 0) && tag(p, 1) || tag(p, 2) && tag(p, 3) || tag(p, 4) && tag(p, 5) || tag(p, 6) && tag(p, 7));
+                p -> tag(p, 0) && tag(p, 1) || tag(p, 2) && tag(p, 3) || tag(p, 4) && tag(p, 5)
+                        || tag(p, 6) && tag(p, 7));
         metBy("(t0|t1)&(t2|t3)&(t4|t5)&(t6|t7)", p -> (tag(p, 0) || tag(p, 1)) && (tag(p, 2) || tag(p, 3))
                 && (tag(p, 4) || tag(p, 5)) && (tag(p, 6) || tag(p, 7)));
         metBy("!!(a<30)&!!!(l>6)|!(@2|!@0)&p>0",
-                p -> age(p) < 30 && land(p) <= 6 || !(false || land(p) >= 5) && plan(p) > 0);
+                p -> age(p) < 30 && land(p) <= 6 || land(p) < 5 && plan(p) > 0);
         metBy("((l=1|l=3)&(p<2|t5))|(!(a>20)&@1)",
                 p -> (land(p) == 1 || land(p) == 3) && (plan(p) < 2 || tag(p, 5)) || age(p) <= 20 && tag(p, 3));
         metBy("a>09&a<16|a=95|l=00", p -> age(p) > 9 && age(p) < 16 || age(p) == 95 || land(p) == 0);
@@ -269,8 +271,9 @@ public final class SentencesTest {
         }
         Told.sentence("Each showing is an entry, also when nothing else comes of it");
         Told same = Told.withTrial();
-        for (int entry = 1; entry < 20; entry++) {
-            same.due(3, "show 2 0").due(entry, "entries");
+        for (int round = 0; round < 10; round++) {
+            same.due(3, "show 2 0").due(3 * round + 1, "entries").due(0, "show 2 1").due(3 * round + 2, "entries");
+            same.due(0, "show 19 7").due(3 * round + 3, "entries");
         }
     }
 
